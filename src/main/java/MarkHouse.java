@@ -66,8 +66,7 @@ public final class MarkHouse {
     private static final int NUMBER = 2;
     private static final int TEXT = 3;
     private static final String SIGNS = ":;,.=<(){}@-";
-    private static final String WORDS = "order kind class field method param maker adds on heirs many no int text "
-            + "push read load store get set call ret add sub mul dup pop jump zero is as";
+    private static final String WORDS = "order kind class field method param maker adds on heirs many no int text push read load store get set call ret add sub mul dup pop jump zero is as";
     private static final int WORD_COUNT = 31;
     private static final int ORDER = 200;
     private static final int KIND = 201;
@@ -723,12 +722,13 @@ public final class MarkHouse {
         }
 
         int givenOf(int target) {
-            return gives[slotOf(target)];
+            return gives[target >= ORDER_BASE ? KINDS_MOST + target - ORDER_BASE : target];
         }
 
         void giveAlso(int target, int mark) {
-            if (givenOf(target) < 0) {
-                gives[slotOf(target)] = mark;
+            int slot = target >= ORDER_BASE ? KINDS_MOST + target - ORDER_BASE : target;
+            if (gives[slot] < 0) {
+                gives[slot] = mark;
             }
         }
 
@@ -739,10 +739,6 @@ public final class MarkHouse {
                     gives[slot] = other.gives[slot];
                 }
             }
-        }
-
-        private static int slotOf(int target) {
-            return target >= ORDER_BASE ? KINDS_MOST + target - ORDER_BASE : target;
         }
     }
 
@@ -918,7 +914,7 @@ public final class MarkHouse {
         final int[] acts = new int[CLASSES_MOST * METHODS_MOST];
         int total;
         final int[] op = new int[ACT_ROOM];
-        // The number of push, the LOCAL of load and store, the ELEMENT of is and as.
+        // The number of push, the LOCAL of load and store, the ELEMENT of is and as, how many call takes.
         final int[] number = new int[ACT_ROOM];
         // The PLACE of get, set, call; the ELEMENTS of push and read, four bits each; the ORDER of is and as.
         final int[] target = new int[ACT_ROOM];
@@ -1041,7 +1037,7 @@ public final class MarkHouse {
         }
 
         int takes(int a) {
-            return op[a] == CALL ? params[methodAt(target[a])] : TAKES[op[a] - PUSH];
+            return op[a] == CALL ? number[a] : TAKES[op[a] - PUSH];
         }
 
         int gives(int a) {
@@ -1054,7 +1050,10 @@ public final class MarkHouse {
 
         /** How many values of the ACT are WANTED to be BELOW a MARK. */
         int wants(int a) {
-            return op[a] == SET || op[a] == RET || op[a] == CALL ? takes(a) : 0;
+            if (op[a] == CALL) {
+                return number[a];
+            }
+            return op[a] == SET || op[a] == RET ? 1 : 0;
         }
 
         /** The PLACE whose MARK is WANTED of value k of the ACT. */
@@ -1262,14 +1261,14 @@ public final class MarkHouse {
         }
 
         private void pass(int sort) {
-            if (next() != sort) {
+            if (cutter.sort[at] != sort) {
                 fail(2, here());
             }
             at++;
         }
 
         private boolean passIf(int sort) {
-            boolean stands = next() == sort;
+            boolean stands = cutter.sort[at] == sort;
             at += stands ? 1 : 0;
             return stands;
         }
@@ -1589,7 +1588,10 @@ public final class MarkHouse {
                     if (j < 0) {
                         fail(5, here());
                     }
-                    newName(marks.pairOf(m, name) >= 0, false);
+                    if (marks.pairOf(m, name) >= 0) {
+                        fail(3, here());
+                    }
+                    at++;
                     pass('=');
                     marks.addPair(m, name, kind.sort[j], readValue(kind.sort[j]));
                     more = passIf(',');
@@ -1612,8 +1614,11 @@ public final class MarkHouse {
                 fail(7, here());
             }
             boolean minus = passIf('-');
-            pass(first == TEXT ? TEXT : NUMBER);
-            long value = cutter.value[at - 1];
+            if (minus && next() != NUMBER) {
+                fail(2, here());
+            }
+            long value = cutter.value[at];
+            at++;
             return minus ? -value : value;
         }
 
@@ -1760,6 +1765,7 @@ public final class MarkHouse {
                 if (code.target[a] < 0) {
                     fail(5, code.secondPlace[a]);
                 }
+                code.number[a] = op == CALL ? code.params[code.methodAt(code.target[a])] : 0;
             }
         }
 
@@ -2250,8 +2256,9 @@ public final class MarkHouse {
         /** Brings the STATE behind an ACT to those to which it leads: a bit for each that changes. */
         private long lead(int from, int i) {
             int a = from + i;
-            long changed = code.goesOn(a) ? bring(from, i + 1, behind(a, states[a])) : 0;
-            return code.goal[a] < 0 ? changed : changed | bring(from, code.goal[a], behindAtLabel(a, states[a]));
+            long s = behind(a, states[a]);
+            long changed = code.goesOn(a) ? bring(from, i + 1, s) : 0;
+            return code.goal[a] < 0 ? changed : changed | bring(from, code.goal[a], atLabel(a, s));
         }
 
         private long bring(int from, int i, long s) {
@@ -2304,7 +2311,7 @@ public final class MarkHouse {
         }
 
         private long behindCall(int a, long s, int top) {
-            int first = top + 1 - code.takes(a);
+            int first = top + 1 - code.number[a];
             long rest = s;
             for (int slot = first; slot <= top; slot++) {
                 rest = withNibble(rest, slot, 0);
@@ -2312,9 +2319,10 @@ public final class MarkHouse {
             return withNibble(rest, first, effects.theMark(code.target[a], order));
         }
 
-        private long behindAtLabel(int a, long s) {
+        /** The STATE s behind an ACT, as it is on the way to its LABEL. */
+        private long atLabel(int a, long s) {
             if (code.op[a] != IS || code.target[a] != order) {
-                return behind(a, s);
+                return s;
             }
             int top = LOCALS_MOST + code.depth[a] - 1;
             return withNibble(s, top, program.orders[order].meetOf(nibble(s, top), code.number[a]));
@@ -2423,14 +2431,15 @@ public final class MarkHouse {
             int i = metAct[k];
             int a = from + i;
             int goal = code.goal[a];
+            long s = behind(a, metState[k]);
             if (goal >= 0 && goal <= i) {
-                meetSituation(goal, behindAtLabel(a, metState[k]), k);
+                meetSituation(goal, atLabel(a, s), k);
             }
             if (code.goesOn(a)) {
-                meetSituation(i + 1, behind(a, metState[k]), k);
+                meetSituation(i + 1, s, k);
             }
             if (goal > i) {
-                meetSituation(goal, behindAtLabel(a, metState[k]), k);
+                meetSituation(goal, atLabel(a, s), k);
             }
         }
 
@@ -2945,15 +2954,12 @@ public final class MarkHouse {
             }
         }
 
-        /** A byte 32 between LEXEMES, none ahead of the first one. */
-        private void gap() {
+        // putName, putSign and putValue put a byte 32 ahead of their LEXEME, unless it is the first one.
+
+        private void putName(long name) {
             if (length > 0) {
                 put(32);
             }
-        }
-
-        private void putName(long name) {
-            gap();
             putSigns(name);
         }
 
@@ -2962,7 +2968,9 @@ public final class MarkHouse {
         }
 
         private void putSign(char sign) {
-            gap();
+            if (length > 0) {
+                put(32);
+            }
             put(sign);
         }
 
@@ -2976,7 +2984,7 @@ public final class MarkHouse {
             if (value < 0) {
                 putSign('-');
             }
-            gap();
+            put(32);
             putDigits(value < 0 ? -value : value);
         }
 
@@ -2998,7 +3006,16 @@ public final class MarkHouse {
                 putSign(';');
             }
             for (int c = 0; c < program.classCount; c++) {
-                writeClass(c);
+                writeClassHead(c);
+                for (int m = 0; m < program.methodCount[c]; m++) {
+                    int method = c * METHODS_MOST + m;
+                    writeMethodHead(method);
+                    for (int i = 0; i < code.acts[method]; i++) {
+                        writeAct(method, code.firstAct[method] + i, NONE);
+                    }
+                    putSign('}');
+                }
+                putSign('}');
             }
             return length;
         }
@@ -3065,7 +3082,7 @@ public final class MarkHouse {
             }
         }
 
-        private void writeClass(int c) {
+        private void writeClassHead(int c) {
             putWord(CLASS);
             putName(program.className[c]);
             if (program.parent[c] >= 0) {
@@ -3085,15 +3102,6 @@ public final class MarkHouse {
                 }
                 putSign(';');
             }
-            for (int m = 0; m < program.methodCount[c]; m++) {
-                int method = c * METHODS_MOST + m;
-                writeMethodHead(method);
-                for (int i = 0; i < code.acts[method]; i++) {
-                    writeToldAct(method, code.firstAct[method] + i);
-                }
-                putSign('}');
-            }
-            putSign('}');
         }
 
         private void writeMethodHead(int method) {
@@ -3142,7 +3150,7 @@ public final class MarkHouse {
         private void writeMark(int m) {
             putSign('@');
             if (marks.isNo(m)) {
-                putWord(NO);
+                putName(words[NO - ORDER]);
             }
             putName(marks.name[m]);
             if (marks.isNo(m)) {
@@ -3170,20 +3178,12 @@ public final class MarkHouse {
             }
         }
 
-        private void writeToldAct(int method, int a) {
-            if (code.label[a] != 0) {
+        /** An ACT with LABELS as they were told (goal NONE), or the number of its LABEL alone. */
+        private void writeAct(int method, int a, int goal) {
+            if (goal < 0 && code.label[a] != 0) {
                 putName(code.label[a]);
                 putSign(':');
             }
-            writeAct(method, a);
-            if (code.goal[a] >= 0) {
-                putName(code.firstName[a]);
-            }
-            putSign(';');
-        }
-
-        /** An ACT without its own LABEL, the LABEL it goes to, and ; . */
-        private void writeAct(int method, int a) {
             putWord(code.op[a]);
             switch (code.op[a]) {
                 case PUSH:
@@ -3211,6 +3211,12 @@ public final class MarkHouse {
                 default:
                     break;
             }
+            if (code.goal[a] >= 0 && goal < 0) {
+                putName(code.firstName[a]);
+            } else if (code.goal[a] >= 0) {
+                putValue(INT_VALUE, goal);
+            }
+            putSign(';');
         }
 
         private void writeOrderElement(int order, int element) {
@@ -3226,11 +3232,7 @@ public final class MarkHouse {
                 if (woven) {
                     writeChecks(method, a);
                 }
-                writeAct(method, a);
-                if (code.goal[a] >= 0) {
-                    putValue(INT_VALUE, writtenAhead(method, code.goal[a], woven));
-                }
-                putSign(';');
+                writeAct(method, a, writtenAhead(method, code.goal[a], woven));
             }
             return length;
         }
@@ -3248,9 +3250,9 @@ public final class MarkHouse {
             }
         }
 
-        /** How many ACTS and CHECKS are written ahead of an ACT and its CHECKS. */
+        /** How many ACTS and CHECKS are written ahead of an ACT and its CHECKS; 0 if it is NONE. */
         private int writtenAhead(int method, int act, boolean woven) {
-            int ahead = act;
+            int ahead = Math.max(act, 0);
             for (int i = 0; i < act && woven; i++) {
                 ahead += Integer.bitCount(code.checks[code.firstAct[method] + i]);
             }
