@@ -123,7 +123,7 @@ public final class MarkHouse {
         effects = new Effects(program, code, marks);
         flow = new Flow(program, code, effects);
         run = new Run(program, code, effects);
-        wiring = new Wiring(program, effects);
+        wiring = new Wiring(program, marks, effects);
         teller = new Teller(cutter.words, program, code, marks, effects);
     }
 
@@ -2209,21 +2209,14 @@ public final class MarkHouse {
             stepCount = 0;
         }
 
+        /** FLOW for an ORDER: makes its STATES and ERRORS. */
         void follow(int itsOrder) {
-            followAll(itsOrder);
-            errorCount = 0;
-            for (int method = 0; method < code.methodCountAll(); method++) {
-                for (int i = 0; code.isMethod(method) && i < code.acts[method]; i++) {
-                    addErrors(method, i);
-                }
-            }
-        }
-
-        private void followAll(int itsOrder) {
             order = itsOrder;
+            errorCount = 0;
             for (int method = 0; method < code.methodCountAll(); method++) {
                 if (code.isMethod(method)) {
                     followMethod(method);
+                    addErrors(method);
                 }
             }
         }
@@ -2328,11 +2321,13 @@ public final class MarkHouse {
             return withNibble(s, top, program.orders[order].meetOf(nibble(s, top), code.number[a]));
         }
 
-        private void addErrors(int method, int i) {
-            int a = code.firstAct[method] + i;
-            for (int k = 0; k < code.wants(a) && states[a] != NOT_COME_TO; k++) {
-                if (isWrong(method, a, k, states[a]) && errorCount < ERROR_ROOM) {
-                    errors[errorCount++] = method * ERRORS_OF_METHOD + i * PARAMS_MOST + k;
+        private void addErrors(int method) {
+            for (int i = 0; i < code.acts[method]; i++) {
+                int a = code.firstAct[method] + i;
+                for (int k = 0; k < code.wants(a) && states[a] != NOT_COME_TO; k++) {
+                    if (isWrong(method, a, k, states[a]) && errorCount < ERROR_ROOM) {
+                        errors[errorCount++] = method * ERRORS_OF_METHOD + i * PARAMS_MOST + k;
+                    }
                 }
             }
         }
@@ -2379,23 +2374,25 @@ public final class MarkHouse {
 
         /** FINDING: FOUND MARKS, which are BOTTOM now, are raised till nothing changes. */
         void raiseFound(int itsOrder) {
+            order = itsOrder;
             boolean changes = true;
             for (int n = 0; n < MANY_TIMES && changes; n++) {
-                followAll(itsOrder);
                 changes = false;
                 for (int method = 0; method < code.methodCountAll(); method++) {
-                    for (int i = 0; code.isMethod(method) && i < code.acts[method]; i++) {
-                        changes |= raiseBy(method, code.firstAct[method] + i);
-                    }
+                    changes |= code.isMethod(method) && raiseBy(method);
                 }
             }
         }
 
-        private boolean raiseBy(int method, int a) {
+        /** Raises FOUND MARKS by what comes to them from a METHOD: whether one changes. */
+        private boolean raiseBy(int method) {
+            followMethod(method);
             boolean changes = false;
-            for (int k = 0; k < code.wants(a) && states[a] != NOT_COME_TO; k++) {
-                int e = nibble(states[a], code.wantedSlot(a, k));
-                changes |= effects.raise(code.wantedPlace(method, a, k), order, e);
+            for (int a = code.firstAct[method]; a < code.firstAct[method] + code.acts[method]; a++) {
+                for (int k = 0; k < code.wants(a) && states[a] != NOT_COME_TO; k++) {
+                    int e = nibble(states[a], code.wantedSlot(a, k));
+                    changes |= effects.raise(code.wantedPlace(method, a, k), order, e);
+                }
             }
             return changes;
         }
@@ -2790,6 +2787,7 @@ public final class MarkHouse {
         private static final int DONE = 2;
 
         private final Program program;
+        private final Marks marks;
         private final Effects effects;
         private final boolean[] isPart = new boolean[CLASSES_MOST];
         private final long[] label = new long[CLASSES_MOST];
@@ -2799,8 +2797,9 @@ public final class MarkHouse {
         private int wrongField = NONE;
         private int wrongClass = NONE;
 
-        Wiring(Program itsProgram, Effects itsEffects) {
+        Wiring(Program itsProgram, Marks itsMarks, Effects itsEffects) {
             program = itsProgram;
+            marks = itsMarks;
             effects = itsEffects;
         }
 
@@ -2851,10 +2850,10 @@ public final class MarkHouse {
             Kind it = program.kinds[kind];
             int j = it.memberOf(member);
             int m = effects.seenMark(kind, 0);
-            if (j < 0 || m < 0 || effects.marks.memberSort(m, it, j) != sort) {
+            if (j < 0 || m < 0 || marks.memberSort(m, it, j) != sort) {
                 return 0;
             }
-            return effects.marks.memberValue(m, it, j);
+            return marks.memberValue(m, it, j);
         }
 
         private int make(int c, int want, int depth) {
