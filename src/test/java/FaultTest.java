@@ -68,6 +68,7 @@ public final class FaultTest {
         right(times(12, "class #{}"), 12);
         right("order abcdefgh:a; class Z9{field f=999999999;}", 1);
         right("kind k(s:text='12345678')on param heirs many; class A{}", 1);
+        right("kind k(s:text=' ~!\"{@;');class A{}", 1);
         Due d = Due.with("a FAULT takes the program away", "class A{}");
         d.is("size", d.x.size(3, 0), 1);
         d.feed("class");
@@ -82,6 +83,7 @@ public final class FaultTest {
     }
 
     private static void cutting() {
+        fault(1, "^#");
         fault(1, "class A{} ^#");
         fault(1, "class A{}^\t");
         fault(1, "class A{}^>");
@@ -227,7 +229,7 @@ public final class FaultTest {
         fault(6, "kind k many;class A" + times(20, "@no k") + "^@;{}");
         fault(6, "order t:" + times(12, "#,") + "^z;class Z{}");
         fault(6, "order t:" + times(11, "#,") + "x<^z;class Z{}");
-        right("order t:a" + times(11, "<#,#") + ";class Z{}", 1);
+        right("order t:a" + times(11, "<#,#") + ",a<A,a;class Z{}", 1);
         right(method(times(19, "push 1;pop;") + "push 1;ret;"), 1);
         right("kind k many;class A" + times(20, "@k") + "{}", 1);
     }

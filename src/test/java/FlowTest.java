@@ -68,6 +68,12 @@ public final class FlowTest {
         d.is("no METHOD", d.x.state(21, 0, 0), -1);
         d.is("no METHOD", d.x.state(30, 0, 0), -1);
 
+        // BOTTOM of LOCALS that are no PARAMETERS, where BOTTOM is not the first ELEMENT.
+        Due last = flows("order t:b<c,a<b;class A{method m(p@t.b){load p;store v;load v;ret;}}", 0, 0);
+        last.is("p", last.x.state(20, 0, 0), 0);
+        last.is("v", last.x.state(20, 0, 1), 2);
+        last.is("v", last.x.state(20, 2, 1), 0);
+
         // A loop: what comes round is joined too.
         Due loop = flows(THREE + "class A{method m()@t.b{push 1;store v;L:load v;read;zero E;push 1@t.c;add;store v;jump L;E:ret;}}", 0, 1);
         loop.is("v in the loop", loop.x.state(20, 2, 0), 2);
@@ -85,6 +91,12 @@ public final class FlowTest {
         d.is("no ERROR", d.x.way(-1), -1);
         d.is("flow", d.x.flow(0), 1);
         d.is("no way yet", d.x.step(0), -1);
+
+        // Round by ACT 0.
+        Due round = flows(THREE + "class A{method m(v@t.a)@t.b{L:read;zero M;push 1@t.c;store v;jump L;M:load v;ret;}}", 0, 1);
+        round.is("v", round.x.state(20, 0, 0), 2);
+        round.is("way", round.x.way(0), 9);
+        round.is("steps", round.steps(), "0 1 2 3 4 0 1 5 6");
 
         // Two ways of one length: the lower ACT where they part.
         Due tie = flows(THREE + "class A{method m()@t.a{push 1@t.c;read;zero L;jump M;L:jump M;M:ret;}}", 0, 1);

@@ -88,6 +88,9 @@ public final class MarkTest {
         d.is("twenty", give(d, 21, twenty), 20);
         d.is("one is gone again", give(d, 21, 1, "k", 0), 1);
         d.is("the others stay", d.x.size(10, 1), 3);
+        Due first = Due.with("the first MARK of all", "kind k;class A{}");
+        first.is("no k", give(first, 0, 1, "k", NO), 1);
+        first.is("no k", mark(first, 0, 0), "0 1 1 0");
     }
 
     private static void wrongFiles() {
@@ -159,6 +162,7 @@ public final class MarkTest {
         d.is("a PARAMETER's", whence(d, 121, 100), "21 1 0 0");
         d.is("a PARAMETER's KIND", whence(d, 122, 0), "22 1 0 0");
         d.is("fewer PARAMETERS", d.x.effective(220, 100), 0);
+        d.is("fewer PARAMETERS", d.x.effective(220, 0), 0);
         d.is("the nearest has fewer", d.x.effective(320, 100), 0);
         d.is("no METHOD above", d.x.effective(130, 100), 0);
         d.is("no at a PARAMETER", d.x.effective(322, 0), 0);
@@ -199,7 +203,7 @@ public final class MarkTest {
     private static void clashes() {
         Due d = Due.with("clash", "order o:a<b;kind x(n:int=0,s:text='');"
                 + "kind p=@x(n=1)@o.a;kind q=@x(s='',n=1)@o.b;kind r=@x(n=1,s='u');kind e;"
-                + "class A@p@q{}class B@p@e@r{}class C:B{}class D@q@p@r{}class E@p{}");
+                + "class A@p@q{}class B@p@e@r{}class C:B{}class D@q@p@r{}class E@p{}class F@r@p{}");
         d.is("VALUES alike, a default too", whence(d, 0, 0), "0 0 1 0");
         d.is("another ELEMENT", whence(d, 0, 100), "0 0 1 1");
         d.is("another VALUE", whence(d, 100, 0), "100 0 1 1");
@@ -207,6 +211,7 @@ public final class MarkTest {
         d.is("ORDERS pass on", whence(d, 200, 100), "100 1 1 0");
         d.is("the third", whence(d, 300, 0), "300 0 1 1");
         d.is("a lone one", whence(d, 400, 0), "400 0 1 0");
+        d.is("the other way round", whence(d, 500, 0), "500 0 1 1");
         d.is("E", give(d, 400, 3, "p", 0, "r", 0, "x", 0), 3);
         d.is("OWN ones never", whence(d, 400, 0), "400 0 0 0");
         d.is("E", give(d, 400, 3, "p", 0, "r", 0, "r", 0), 3);
@@ -228,6 +233,9 @@ public final class MarkTest {
         d.is("the out", d.out(), "0");
         d.is("an ELEMENT", d.x.ask(1, 100, 0, 0), 3);
         d.is("the out", d.out(), "high");
+        d.is("give", give(d, 1, 1, "o", 1, "at", 3, "low"), 1);
+        d.is("the first ELEMENT", d.x.ask(1, 100, 0, 0), 3);
+        d.is("the out", d.out(), "low");
         d.is("no MEMBER", d.x.ask(0, 0, 0, 3), -1);
         d.is("no MEMBER", d.x.ask(0, 0, 0, -1), -1);
         d.is("no MEMBER", d.x.ask(1, 100, 0, 1), -1);
@@ -239,7 +247,7 @@ public final class MarkTest {
         d.is("WARPED", d.x.ask(0, 0, 0, 0), -2);
         d.is("WARPED, the first PAIR counts", d.x.ask(0, 0, 0, 1), -2);
         d.is("MISSING", d.x.ask(0, 0, 0, 2), -3);
-        d.is("THE OUT stays", d.out(), "high");
+        d.is("THE OUT stays", d.out(), "low");
         d.is("give", give(d, 1, 1, "o", 1, "at", 2, "high"), 1);
         d.is("WARPED", d.x.ask(1, 100, 0, 0), -2);
         d.is("give", give(d, 1, 1, "o", 2, "x", 3, "high", "at", 3, "mid"), 1);
@@ -269,6 +277,19 @@ public final class MarkTest {
         d.is("told now", d.x.markOf(2, 0), 2);
         d.is("give", give(d, 2, 0), 0);
         d.is("what was FOUND is there still", d.x.markOf(2, 0), 0);
+
+        Due never = Due.with("never FOUND", "order o:a<b,b<c;class A{field f@o.a;method m(){push 1@o.b;set A.f;push 1;ret;}}");
+        never.is("find", never.x.find(0), 1);
+        never.is("give", give(never, 1, 0), 0);
+        never.is("TOP, for FINDING did not look for it", never.x.markOf(1, 0), 2);
+        Due once = Due.with("FOUND once", "order o:a<b,b<c;class A{field g;field h@o.a;method m()@o.a{get A.h;set A.g;push 1;ret;}}");
+        once.is("find", once.x.find(0), 1);
+        once.is("g", once.x.markOf(1, 0), 0);
+        once.is("give", give(once, 1, 1, "o", 1, "at", 3, "a"), 1);
+        once.is("give", give(once, 2, 1, "o", 1, "at", 3, "c"), 1);
+        once.is("find", once.x.find(0), 0);
+        once.is("give", give(once, 1, 0), 0);
+        once.is("as it was FOUND when it was looked for", once.x.markOf(1, 0), 0);
     }
 
     private static void makers() {

@@ -3,6 +3,7 @@ public final class TapeTest {
     public static void main(String[] args) {
         newObject();
         tape();
+        cutShort();
         fullTape();
         out();
         Due.close();
@@ -58,6 +59,22 @@ public final class TapeTest {
         d.is("end(1) on an empty tape", d.x.end(1), -1);
         d.is("end(0)", d.x.end(0), 0);
         d.is("compile of nothing", d.compile(), Due.ILLEGAL_ARGUMENT);
+    }
+
+    /** What end() takes away is no part of the text, whatever it was. */
+    private static void cutShort() {
+        String[] texts = {"class A{}|x", "class A|   ", "class A|B{}", "class A{field f=1|2;}", "kind k(s:text='a|b');class A{}",
+            "kind k(s:text='a|');class A{}"};
+        int[] kinds = {0, 2, 2, 2, 1, 1};
+        int[] places = {0, 7, 7, 17, 14, 14};
+        for (int k = 0; k < texts.length; k++) {
+            Due d = new Due(texts[k]);
+            d.feed(texts[k].replace("|", ""));
+            d.is("end", d.x.end(texts[k].indexOf('|')), texts[k].indexOf('|'));
+            d.is("compile", d.compile(), kinds[k] == 0 ? Due.NOTHING : Due.ILLEGAL_ARGUMENT);
+            d.is("fault(0)", d.x.fault(0), kinds[k]);
+            d.is("fault(1)", d.x.fault(1), places[k]);
+        }
     }
 
     private static void fullTape() {

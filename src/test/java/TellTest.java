@@ -84,9 +84,11 @@ public final class TellTest {
         d.is("MEMBERS of none", d.x.size(5, 2), -1);
         d.is("FIELDS", d.x.size(6, 0), 1);
         d.is("FIELDS of none", d.x.size(6, 3), -1);
+        d.is("METHODS", d.x.size(7, 0), 1);
         d.is("METHODS", d.x.size(7, 1), 1);
         d.is("METHODS", d.x.size(7, 2), 0);
         d.is("METHODS of none", d.x.size(7, -1), -1);
+        d.is("METHODS of none", d.x.size(7, 3), -1);
         d.is("PARAMETERS", d.x.size(8, 20), 2);
         d.is("PARAMETERS", d.x.size(8, 120), 0);
         d.is("PARAMETERS of a PARAMETER", d.x.size(8, 21), -1);
@@ -122,6 +124,8 @@ public final class TellTest {
         d.is("no ORDER", d.x.order(-1, 0, 0, 0), -1);
         d.is("no ELEMENT", d.x.order(0, 5, 0, 0), -1);
         d.is("no ELEMENT", d.x.order(0, 0, -1, 0), -1);
+        d.is("no ELEMENT", d.x.order(0, 0, 5, 0), -1);
+        d.is("no ELEMENT", d.x.order(0, -1, 0, 1), -1);
         d.is("no what", d.x.order(0, 0, 0, 3), -1);
         d.is("no what", d.x.order(0, 0, 0, -1), -1);
     }
