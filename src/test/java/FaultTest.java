@@ -19,38 +19,17 @@ public final class FaultTest {
     }
 
     private static void fault(int kind, String text) {
-        int place = text.indexOf('^');
-        String program = text.substring(0, place) + text.substring(place + 1);
-        Due d = new Due(text.length() > 300 ? text.substring(0, 300) : text);
-        d.feed(program);
-        d.is("compile", d.compile(), Due.ILLEGAL_ARGUMENT);
-        d.is("fault(0)", d.x.fault(0), kind);
-        d.is("fault(1)", d.x.fault(1), place);
-        d.is("no program: size", d.x.size(3, 0), -1);
+        Due.fault("FAULT", kind, text);
     }
 
     private static void right(String text, int classes) {
-        Due d = new Due(text.length() > 300 ? text.substring(0, 300) : text);
-        d.feed(text);
-        int got = -1;
-        try {
-            got = d.x.compile();
-        } catch (IllegalArgumentException e) {
-            d.is("fault", d.x.fault(0) + " at " + d.x.fault(1), "none");
-        }
-        d.is("compile", got, classes);
-        d.is("fault(0)", d.x.fault(0), 0);
-        d.is("fault(1)", d.x.fault(1), 0);
+        Due d = Due.right("no FAULT", text, classes);
         d.is("fault(2)", d.x.fault(2), -1);
         d.is("fault(-1)", d.x.fault(-1), -1);
     }
 
     private static String times(int n, String text) {
-        StringBuilder all = new StringBuilder();
-        for (int k = 0; k < n; k++) {
-            all.append(text.replace("#", Character.toString((char) ('A' + k))));
-        }
-        return all.toString();
+        return Due.times(n, text);
     }
 
     private static String method(String acts) {

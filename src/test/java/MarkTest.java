@@ -17,34 +17,19 @@ public final class MarkTest {
     }
 
     private static byte[] bytes(Object... parts) {
-        StringBuilder all = new StringBuilder();
-        for (Object part : parts) {
-            if (part instanceof String) {
-                String name = (String) part;
-                all.append((char) name.length()).append(name);
-            } else {
-                all.append((char) (((Number) part).intValue() & 255));
-            }
-        }
-        byte[] result = new byte[all.length()];
-        for (int i = 0; i < result.length; i++) {
-            result[i] = (byte) all.charAt(i);
-        }
-        return result;
+        return Due.bytes(parts);
     }
 
     private static int give(Due d, int place, Object... parts) {
-        d.feed(bytes(parts));
-        return d.x.give(place);
+        return d.give(place, parts);
     }
 
     private static String mark(Due d, int place, int i) {
-        return d.x.mark(place, i, 0) + " " + d.x.mark(place, i, 1) + " " + d.x.mark(place, i, 2) + " " + d.x.mark(place, i, 3);
+        return d.mark(place, i);
     }
 
     private static String whence(Due d, int place, int kind) {
-        return d.x.whence(place, kind, 0) + " " + d.x.whence(place, kind, 1) + " " + d.x.whence(place, kind, 2) + " "
-                + d.x.whence(place, kind, 3);
+        return d.whence(place, kind);
     }
 
     private static void ownMarks() {

@@ -13,10 +13,9 @@ public final class TellTest {
         Due d = Due.with(text, text);
         d.is("tell", d.x.tell(), told.length());
         d.is("the out", d.out(), told);
-        d.feed(told);
-        d.is("compile of what was told", d.compile(), Due.NOTHING);
-        d.x.tell();
-        d.is("told again", d.out(), told);
+        Due again = Due.with("what was told of " + text, told);
+        again.is("tell", again.x.tell(), told.length());
+        again.is("told again", again.out(), told);
     }
 
     private static void told() {
