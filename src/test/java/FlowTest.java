@@ -187,11 +187,9 @@ public final class FlowTest {
     }
 
     private static void whatEnds() {
-        Due d = Due.with("what ends CHECKS, ERRORS and the rest", THREE + "kind k;maker M:k adds @k;"
-                + "class A@k{field f;method m()@t.a{push 1@t.b;ret;}}");
         String[] enders = {"give", "rounds", "find", "plain"};
         for (String ender : enders) {
-            prepare(d);
+            Due d = prepared();
             if (ender.equals("give")) {
                 d.feed(new byte[] {0});
                 d.is("give", d.x.give(1), 0);
@@ -204,7 +202,7 @@ public final class FlowTest {
             }
             ended(d, ender);
         }
-        prepare(d);
+        Due d = prepared();
         d.feed(new byte[] {9});
         d.is("a give that is refused", d.x.give(1), -1001);
         d.x.find(1);
@@ -217,7 +215,9 @@ public final class FlowTest {
         ended(d, "compile");
     }
 
-    private static void prepare(Due d) {
+    private static Due prepared() {
+        Due d = Due.with("what ends CHECKS, ERRORS and the rest", THREE + "kind k;maker M:k adds @k;"
+                + "class A@k{field f;method m()@t.a{push 1@t.b;ret;}}");
         d.is("flow", d.x.flow(0), 1);
         d.is("way", d.x.way(0), 2);
         d.is("weave", d.x.weave(), 1);
@@ -225,6 +225,7 @@ public final class FlowTest {
         d.is("begin", d.begin(20, true), Due.NOTHING);
         d.is("go", d.go(1), "1");
         stands(d);
+        return d;
     }
 
     private static void stands(Due d) {
