@@ -30,6 +30,8 @@ public final class TermFlowTest {
         wayOfTheValue();
         situations();
         lastSituation();
+        likeSituations();
+        oneWay();
         checksAhead();
         labelsToChecks();
         takenOut();
@@ -148,6 +150,9 @@ public final class TermFlowTest {
         d.is("on the one way", state(d, 20, 7), "10|1");
         d.is("on the other", state(d, 20, 11), "11|20");
         d.is("the JOIN of each", state(d, 20, 12), "11|3");
+        Due full = flows("the JOIN of eight LOCALS and eight values", FOUR + "class A{method m(a@t.l,b@t.l,c@t.l,d@t.l){push 1@t.l;dup;store e;dup;store f;dup;store g;"
+                + "store h;load a;load a;load a;load a;load a;load a;load a;read;zero L;load a;jump M;L:push 1@t.r;M:pop;push 1@t.r;store h;read;ret;}}", 0);
+        full.is("the eighth value", state(full, 20, 20), "11111111|11111113");
         // is, whose LABEL is the next one, brings both.
         Due both = flows("both ways to one ACT", FOUR + "class A{method m(){push 1@t.l;is t.r L;L:ret;}}", 0);
         both.is("l and its MEET with r", state(both, 20, 2), "|1");
@@ -369,6 +374,10 @@ public final class TermFlowTest {
         stays.is("steps", stays.steps(), "0 1");
         stays.is("OPEN", stays.x.way(0), -2);
         stays.is("steps", stays.steps(), "0 1");
+        Due unshown = flows("step: the latest way() that had ACTS", turning("", "ret;}method n()@t.z{push 1@t.l;ret;"), 2);
+        unshown.is("a way", unshown.x.way(1), 2);
+        unshown.is("no way shows it", unshown.x.way(0), 0);
+        unshown.is("steps", unshown.steps(), "0 1");
     }
 
     /**
@@ -377,16 +386,69 @@ public final class TermFlowTest {
      */
     private static void lastSituation() {
         String about = "SITUATIONS .. are counted as they are first met, in this order (the first one is that of ACT 0), and looked at then";
-        String front = "order t:z<a,z<b,z<c,a<x,b<x,a<y,c<y,b<w,c<w,x<u,y<u,w<u;class A{method m()@t.z{";
-        String back = "read;zero E;push 1@t.u;is t.x B;B:is t.y C;C:is t.w D;D:push 1@t.u;is t.x F;F:is t.y G;G:is t.w H;H:read;pop;read;pop;"
-                + "push 1;ret;E:push 1@t.u;is t.x I;I:is t.y J;J:is t.w K;K:read;pop;read;pop;read;pop;dup;ret;}}";
         String[] aheads = {"", "read;pop;read;pop;", "read;pop;read;as t.z;pop;", "read;pop;read;pop;read;pop;", "read;pop;read;pop;read;as t.z;pop;"};
         int[] due = {14, 18, 19, -2, -2};
         for (int k = 0; k < aheads.length; k++) {
-            Due d = flows(about, front + aheads[k] + back, 1);
-            d.is("with " + aheads[k], d.x.way(0), due[k]);
-            d.is("its last step", d.x.step(Math.max(due[k] - 1, 0)), due[k] < 0 ? -1 : d.x.error(0, 1));
+            shows(about, cube(aheads[k], "is t.w K;K:", "dup;ret;"), due[k]);
         }
+        // Back to ACT 0, and to an ACT that has it as its own LABEL, with the same STATE: no new SITUATION.
+        shows("back to ACT 0", cube("S:read;zero S;read;as t.z;pop;", "is t.w K;K:", "dup;ret;"), 19);
+        shows("back to ACT 0", cube("S:read;zero S;read;pop;read;pop;", "is t.w K;K:", "dup;ret;"), -2);
+        // An ACT that leads to itself is lower than the next one, so its new STATE is counted first.
+        shows("to itself", cube("read;pop;read;pop;", "is t.w K;K:", "M:is t.v M;ret;"), 18);
+        shows("to itself", cube("read;pop;read;as t.z;pop;", "is t.w K;K:", "M:is t.v M;ret;"), -2);
+    }
+
+    private static String cube(String ahead, String third, String last) {
+        return "order t:z<a,z<b,z<c,a<x,b<x,a<y,c<y,b<w,c<w,x<u,y<u,w<u,z<v,v<u;class A{field f;method n(p,q){push 1;ret;}method m()@t.z{" + ahead
+                + "read;zero E;push 1@t.u;is t.x B;B:is t.y C;C:is t.w D;D:push 1@t.u;is t.x F;F:is t.y G;G:is t.w H;H:read;pop;read;pop;push 1;ret;"
+                + "E:push 1@t.u;is t.x I;I:is t.y J;J:" + third + "read;pop;read;pop;read;pop;" + last + "}}";
+    }
+
+    private static void shows(String about, String program, int length) {
+        Due d = flows(about + " [" + program + "]", program, 1);
+        for (int k = 0; k < 2; k++) {
+            d.is("way", d.x.way(0), length);
+            d.is("its last step", d.x.step(Math.max(length - 1, 0)), length < 0 ? -1 : d.x.error(0, 1));
+        }
+    }
+
+    /** Two ways that meet with the same STATE: all behind them is met once (twice it would be too much). */
+    private static void likeSituations() {
+        String[] aside = {"push 0;pop;", "push 0;set A.f;", "push 0;dup;add;pop;", "push 0;zero P;", "push 0;dup;call A.n;pop;", "push 0;is t.u Q;Q:pop;",
+            "push 0;dup;pop;pop;", "push 0;store v;", "get A.f;pop;", "push 0;as t.a;pop;"};
+        for (String acts : aside) {
+            String ahead = (acts.contains("store") ? "push 0;store v;" : "") + "read;zero P;" + acts + "P:";
+            shows("unlike ones of ACT and STATE", cube(ahead, "", "dup;ret;"), acts.contains("store") ? 17 : 15);
+        }
+    }
+
+    /** One way alone, round and round: 8 ACTS and those told ahead, then 26 in each of 15 turns. */
+    private static String alone(String locals, String ofE, String ofH, String ahead, String asked) {
+        return "order t:z<l,z<m,z<r,l<u,m<u,r<u;class A{field f@t.z;method m(" + locals + "){push 0@t." + ofE + ";store e;push 0;store f;push 0;store g;push 0@t."
+                + ofH + ";store h;" + ahead + "L:load a;load b;load c;store a;store c;store b;load d;load e;load f;load g;load h;store d;store h;store g;store f;store e;"
+                + asked + "is t.m N;as t.z;N:set A.f;push 0;as t.z;pop;jump L;}}";
+    }
+
+    private static void oneWay() {
+        String about = "when a 401st would be met: it is met by the 400th alone";
+        // a is l, r and z in turn; the ERROR comes by their JOIN, which no way has.
+        String[] aheads = {"", "push 0;pop;", "push 0;as t.z;pop;"};
+        int[] due = {0, 0, -2};
+        for (int k = 0; k < aheads.length; k++) {
+            Due d = flows(about, alone("a@t.l,b@t.r,c@t.z,d@t.z", "z", "l", aheads[k], "push 0;pop;load a;"), 1);
+            d.is("with " + aheads[k], d.x.way(0), due[k]);
+            d.is("again", d.x.way(0), due[k]);
+        }
+        // a is l in each third turn, d is r in each fifth: both in the fourteenth, when their JOIN has a MEET with m.
+        Due far = flows("the longest way", alone("a@t.z,b@t.l,c@t.z,d@t.z", "r", "z", "", "load a;load d;add;"), 1);
+        far.is("8, 25 in each of 13 turns, 21", far.x.way(0), 354);
+        int turns = 0;
+        for (int k = 0; k < 354; k++) {
+            turns += far.x.step(k) == 8 ? 1 : 0;
+        }
+        far.is("so many turns", turns, 14);
+        far.is("its ends", far.x.step(0) + " " + far.x.step(353) + " " + far.x.step(354), "0 " + far.x.error(0, 1) + " -1");
     }
 
     private static void checksAhead() {

@@ -82,6 +82,8 @@ public final class TermMarksTest {
             d.is("BOTTOM of another LOCAL", d.x.state(20, 0, 1), bottoms[k]);
             d.is("find", d.x.find(0), 3);
             d.is("BOTTOM", d.x.markOf(1, 0), bottoms[k]);
+            d.is("BOTTOM of the METHOD", d.x.markOf(20, 0), bottoms[k]);
+            d.is("BOTTOM of the PARAMETER", d.x.markOf(21, 0), bottoms[k]);
         }
     }
 
@@ -522,6 +524,11 @@ public final class TermMarksTest {
         d.is("z of C: the nearest has one more, and no one above it is asked", d.x.effective(230, 0), 0);
         d.is("no METHOD of the NAME", d.x.effective(330, 0), 0);
         d.is("no PARENT", d.x.effective(420, 0), 0);
+        Due eight = Due.with("FIELDS have none: not the METHODS' ahead either", "order o:a<b;class A{" + Due.times(8, "method #()@o.a{read;ret;}")
+                + "}class B:A{" + Due.times(8, "field #;") + "}");
+        for (int field = 101; field <= 108; field++) {
+            eight.is("FIELD " + field, eight.x.effective(field, 100), 0);
+        }
         d.is("no PARENT", d.x.effective(400, 0), 0);
     }
 

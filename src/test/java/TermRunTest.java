@@ -5,6 +5,8 @@ public final class TermRunTest {
     public static void main(String[] args) {
         intsThatWrap();
         bottomAtFirst();
+        freshLocals();
+        fieldsAndStack();
         told();
         joined();
         nextInput();
@@ -79,6 +81,26 @@ public final class TermRunTest {
                 + "method n(){push 1;call A.m;set A.f;push 0;call A.m;ret;}}", 30, false);
         again.is("7 of the FIELD alone", again.x.run(1), 7);
         again.is("truth", again.x.truth(0), 1);
+    }
+
+    /** The same METHODS are called twice, and leave their LOCALS full: the second time these are 0 and BOTTOM again. */
+    private static void freshLocals() {
+        Due d = ran("other LOCALS (0) BOTTOM, in each call anew", TWO + "class A{method m(){jump S;T:push 9@s.y@t.c;dup;store a;dup;store b;store c;push 1;ret;"
+                + "S:load a;load b;add;load c;add;zero T;load a;ret;}method n(){call A.m;pop;call A.m;pop;call A.m;ret;}}", 30, false);
+        d.is("value", d.x.run(1), 1);
+        // In the twelfth METHOD under way, too.
+        String loads = "load a;load b;add;load c;add;load d;add;load e;add;load f;add;get A.s;add;set A.s;";
+        Due deep = ran("in the twelfth METHOD under way", TWO + "class A{field s;method m(p){jump S;T:push 1;store a;push 1;store b;push 1;store c;push 1;store d;"
+                + "push 1;store e;push 1;store f;load p;zero E;load p;push 1;sub;call A.m;ret;E:push 7;ret;S:" + loads + "jump T;}"
+                + "method n(){push 10;call A.m;pop;push 10;call A.m;pop;get A.s;ret;}}", 30, false);
+        deep.is("VALUE", deep.x.run(0), 2);
+        deep.is("all were 0", deep.x.run(1), 0);
+    }
+
+    private static void fieldsAndStack() {
+        Due d = ran("get and set take and give what they name, and no more", TWO + "class A{field f=3;field g=4;method m(){push 100;push 20;get A.f;get A.g;set A.f;add;add;"
+                + "get A.g;add;get A.f;add;ret;}}", 20, false);
+        d.is("100 + 20 + 3 + 4 + 4", d.x.run(1), 131);
     }
 
     private static void told() {

@@ -90,6 +90,7 @@ public final class TermWiringTest {
         wires("the first one counts", KINDS + "class A@part{field f@want(of='B')@want(of='Q');}class B@part{}", "0 -1 -1: 1 0");
         wires("the first one counts", KINDS + "class A@part{field f@want(of='Q')@want(of='B');}class B@part{}", "1 1 0:");
         wires("GIVEN ones too", KINDS + "kind w=@want(of='B');class A@part{field f@w;}class B@part{}", "0 -1 -1: 1 0");
+        wires("the first KIND of all", "kind want(of:text);kind part;class A@part{field f@want(of='B');}class B@part{}", "0 -1 -1: 1 0");
         wires("no want", KINDS + "kind w=@want(of='Q');class A@part{field f@w@no want;}", "0 -1 -1: 0");
         wires("MARKS of CLASSES and METHODS are no wants", KINDS + "class A@part@want(of='Q'){method m(p@want(of='Q'))@want(of='Q'){read;ret;}}", "0 -1 -1: 0");
         wires("a KIND of another NAME", "kind part;kind Want(of:text);class A@part{field f@Want(of='Q');}", "0 -1 -1: 0");
