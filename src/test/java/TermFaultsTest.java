@@ -546,6 +546,7 @@ public final class TermFaultsTest {
         right(about, acts("read;jump L;add;add;L:ret;"));
         // What was gone over is not gone over again, though it is come to again.
         fault(about, 8, acts("L:read;zero L;^pop;read;ret;"));
+        fault(about, 8, acts("read;zero E;L:jump L;^E:pop;read;ret;"));
         fault(about, 8, acts("read;L:read;zero L;pop;^pop;read;ret;"));
         // All forty ACTS are gone over, the last one too.
         fault(about, 8, acts(times(19, "read;pop;") + "read;^add;"));

@@ -413,13 +413,17 @@ public final class TermFlowTest {
         }
     }
 
-    /** Two ways that meet with the same STATE: all behind them is met once (twice it would be too much). */
+    /**
+     * Two ways meet with the same STATE, whatever was on the stack of one of them: all behind is met once, some 360
+     * SITUATIONS with the ERROR's (twice would be too much, for behind it 64 STATES of two LOCALS go on).
+     */
     private static void likeSituations() {
-        String[] aside = {"push 0;pop;", "push 0;set A.f;", "push 0;dup;add;pop;", "push 0;zero P;", "push 0;dup;call A.n;pop;", "push 0;is t.u Q;Q:pop;",
-            "push 0;dup;pop;pop;", "push 0;store v;", "get A.f;pop;", "push 0;as t.a;pop;"};
+        String[] aside = {"push 0@t.u;pop;", "push 0@t.u;set A.f;", "push 0@t.u;zero P;", "push 0@t.u;store c;", "get A.f;pop;", "push 0@t.u;dup;add;pop;",
+            "push 0@t.u;dup;sub;pop;", "push 0@t.u;dup;call A.n;pop;", "push 0@t.u;as t.x;pop;", "push 0@t.u;is t.x Q;Q:pop;", "push 0@t.u;dup;pop;pop;"};
         for (String acts : aside) {
-            String ahead = (acts.contains("store") ? "push 0;store v;" : "") + "read;zero P;" + acts + "P:";
-            shows("unlike ones of ACT and STATE", cube(ahead, "", "dup;ret;"), acts.contains("store") ? 17 : 15);
+            shows("unlike ones of ACT and STATE", "order t:z<a,z<b,z<c,a<x,b<x,a<y,c<y,b<w,c<w,x<u,y<u,w<u;class A{field f;method n(p,q){push 1;ret;}"
+                    + "method m(c)@t.z{read;zero P;" + acts + "P:read;zero E;push 1@t.u;is t.x B;B:is t.y C;C:is t.w D;D:store a;push 1@t.u;is t.x F;F:is t.y G;G:is t.w H;"
+                    + "H:store b;read;pop;read;ret;E:read;pop;read;pop;read;pop;read;pop;read;pop;push 1@t.u;as t.u;ret;}}", 17);
         }
     }
 

@@ -524,7 +524,7 @@ public final class TermMarksTest {
         d.is("z of C: the nearest has one more, and no one above it is asked", d.x.effective(230, 0), 0);
         d.is("no METHOD of the NAME", d.x.effective(330, 0), 0);
         d.is("no PARENT", d.x.effective(420, 0), 0);
-        Due eight = Due.with("FIELDS have none: not the METHODS' ahead either", "order o:a<b;class A{" + Due.times(8, "method #()@o.a{read;ret;}")
+        Due eight = Due.with("FIELDS have none: not the METHODS' ahead either", "order o:a<b;class A{" + Due.times(8, "method #(p@o.a,q@o.a,r@o.a,s@o.a)@o.a{read;ret;}")
                 + "}class B:A{" + Due.times(8, "field #;") + "}");
         for (int field = 101; field <= 108; field++) {
             eight.is("FIELD " + field, eight.x.effective(field, 100), 0);
