@@ -15,6 +15,7 @@ public final class FullestTest {
         fortyActs();
         fourOrders();
         sixteenChecks();
+        manyMarks();
         Due.close();
     }
 
@@ -301,5 +302,26 @@ public final class FullestTest {
         all.begin(30, false);
         all.go(99);
         all.is("sixteen LEFT", all.x.run(6), 16);
+    }
+
+    /** 1600 MARKS in a text that fills THE TAPE nearly, then as many by FILES as the 512 calls of one object leave. */
+    private static void manyMarks() {
+        String marks = "@k".repeat(20);
+        String method = "method #(p" + marks + ",q" + marks + ",r" + marks + ",s" + marks + ")" + marks + "{read;ret;}";
+        String text = "kind k many;class A{" + Due.times(8, method) + "field f;}class B{" + Due.times(8, method) + "field f;}";
+        Due d = new Due("512 calls");
+        int calls = 0;
+        d.feed(text);
+        calls += 2 + (text.length() + 19) / 20;
+        d.is("compile", d.compile(), Due.NOTHING);
+        calls++;
+        int[] places = {1, 0, 101, 100, 20, 194, 190, 24};
+        for (int k = 0; calls + 8 <= 510; k++) {
+            d.is("give", d.give(places[k % places.length], Due.marks(20, "k", 0)), 20);
+            calls += 2 + 4 + 1;
+        }
+        d.is("so many calls", calls > 500 && calls <= 510, true);
+        d.is("the last but one", d.x.effective(191, 0), 20);
+        d.is("the last", d.x.effective(1, 0), 20);
     }
 }

@@ -394,6 +394,9 @@ public final class TermFlowTest {
         // Back to ACT 0, and to an ACT that has it as its own LABEL, with the same STATE: no new SITUATION.
         shows("back to ACT 0", cube("S:read;zero S;read;as t.z;pop;", "is t.w K;K:", "dup;ret;"), 19);
         shows("back to ACT 0", cube("S:read;zero S;read;pop;read;pop;", "is t.w K;K:", "dup;ret;"), -2);
+        // The 400th shows it: what else the ACT ahead leads to, a 401st, is not met any more.
+        shows("the 400th", cube("read;pop;read;as t.z;pop;", "is t.w K;K:", "is t.v Z;ret;Z:pop;push 1;ret;"), 19);
+        shows("the 401st", cube("read;pop;read;pop;read;pop;", "is t.w K;K:", "is t.v Z;ret;Z:pop;push 1;ret;"), -2);
         // An ACT that leads to itself is lower than the next one, so its new STATE is counted first.
         shows("to itself", cube("read;pop;read;pop;", "is t.w K;K:", "M:is t.v M;ret;"), 18);
         shows("to itself", cube("read;pop;read;as t.z;pop;", "is t.w K;K:", "M:is t.v M;ret;"), -2);

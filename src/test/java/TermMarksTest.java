@@ -157,7 +157,7 @@ public final class TermMarksTest {
         Due d = plain(about);
         taken(d, Due.marks(20, "w", 0));
         d.is("all count", d.x.effective(1, 1), 20);
-        for (int count = 21; count < 256; count += 18) {
+        for (int count = 21; count < 256; count++) {
             refused(plain(about), 0, Due.marks(count, "w", 0));
         }
         refused(plain(about), 0, 255);
