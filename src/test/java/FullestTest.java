@@ -195,6 +195,15 @@ public final class FullestTest {
         orders.is("find", orders.x.find(0) + " " + orders.x.markOf(1, 0), "2 0");
         orders.x.tell();
         orders.is("tell", orders.out().startsWith("order t : a , b , c , d , a < b , a < c , b < d , c < d ; class"), true);
+        // STATES of ACTS that were there ahead are gone: of a METHOD that is longer, and of those behind it.
+        Due acts = Due.with("fewer ACTS behind more", "order t:a<b;class A{method m()@t.a{push 1@t.b;push 1@t.b;ret;}method n()@t.a{push 1@t.b;ret;}}");
+        acts.is("flow", acts.x.flow(0), 2);
+        acts.feed("order t:a<b;class A{method m()@t.a{push 1;ret;}}");
+        acts.is("compile", acts.compile(), Due.NOTHING);
+        acts.is("flow", acts.x.flow(0), 0);
+        acts.is("weave", acts.x.weave(), 0);
+        acts.is("give", acts.give(20, 0), 0);
+        acts.is("find", acts.x.find(0) + " " + acts.x.markOf(20, 0), "1 0");
         // A FAULT in the midst leaves nothing either.
         orders.feed("order t:a<b;order u:a<b;kind k;kind l(n:int);class A@k{field f@t.a;method m(p){load p;ret;}}class A{}");
         orders.is("compile", orders.compile(), Due.ILLEGAL_ARGUMENT);

@@ -394,6 +394,12 @@ public final class TermFlowTest {
         // Back to ACT 0, and to an ACT that has it as its own LABEL, with the same STATE: no new SITUATION.
         shows("back to ACT 0", cube("S:read;zero S;read;as t.z;pop;", "is t.w K;K:", "dup;ret;"), 19);
         shows("back to ACT 0", cube("S:read;zero S;read;pop;read;pop;", "is t.w K;K:", "dup;ret;"), -2);
+        // With eight LOCALS, and a BOTTOM that is not the first ELEMENT.
+        String[] back = {cube("S:read;zero S;read;as t.z;pop;", "is t.w K;K:", "dup;ret;"), cube("S:read;zero S;read;pop;read;pop;", "is t.w K;K:", "dup;ret;")};
+        for (int k = 0; k < 2; k++) {
+            shows("back to ACT 0", back[k].replace("order t:", "order t:a<x,").replace("method m()", "method m(p,q,r,s)").replace("dup;ret;}}",
+                    "dup;ret;store a;store b;store c;store d;}}"), k == 0 ? 19 : -2);
+        }
         // The 400th shows it: what else the ACT ahead leads to, a 401st, is not met any more.
         shows("the 400th", cube("read;pop;read;as t.z;pop;", "is t.w K;K:", "is t.v Z;ret;Z:pop;push 1;ret;"), 19);
         shows("the 401st", cube("read;pop;read;pop;read;pop;", "is t.w K;K:", "is t.v Z;ret;Z:pop;push 1;ret;"), -2);
