@@ -528,6 +528,9 @@ public final class TermFaultsTest {
         for (String text : texts) {
             fault(about, 8, front + acts(text));
         }
+        // Also if its LABEL's was come to with another DEPTH.
+        fault(about, 8, front + acts("L:read;read;^zero L;"));
+        fault(about, 8, front + acts("read;L:read;^is o.a L;"));
         right(about, acts("L:jump L;"));
         right(about, acts("read;ret;"));
         // One that is not come to may be the last.
